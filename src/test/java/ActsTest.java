@@ -1,0 +1,234 @@
+/** Promises 10 to 13: ask, bring, undo, judge. */
+public final class ActsTest {
+    private static final Check check = new Check("ActsTest");
+
+    public static void main(String[] args) {
+        ask();
+        askRefused();
+        bringByLaws();
+        bringBesideWhatIsAway();
+        alone();
+        bringRefused();
+        undo();
+        undoForgetsTheFirst();
+        undoKeepsTheLaw();
+        judge();
+        judgeRefused();
+        check.end();
+    }
+
+    private static void ask() {
+        BesideBook x = Check.open("L0540213C01234R20R35R19");
+        check.due("right of 0", x.ask(0, 0), 2);
+        Check.shelfIs(check, x, "4013");
+        check.due("its wish", x.count(7), 1);
+        check.due("right of the last: the first", x.ask(1, 3), 4);
+        Check.shelfIs(check, x, "013");
+        check.due("who", x.book(4, 1), 1);
+        check.due("asked", x.book(4, 2), 3);
+        check.due("one reader may have several", x.ask(1, 0), 1);
+        check.due("4 and 1", x.reader(1, 2), 18);
+        check.due("acts", x.count(4), 3);
+        check.due("stand there", x.count(3), 2);
+    }
+
+    private static void askRefused() {
+        BesideBook x = Check.open("L0540213C01234R20R35R19");
+        x.ask(0, 0);
+        for (int wrong : new int[] {-1, 5, 8, Integer.MIN_VALUE, Integer.MAX_VALUE}) {
+            check.refused(x, "ask(" + wrong + ", 0)", () -> x.ask(wrong, 0), Check.UNKNOWN);
+            check.refused(x, "ask(0, " + wrong + ")", () -> x.ask(0, wrong), Check.UNKNOWN);
+            check.refused(x, "UNKNOWN comes ahead of STATE", () -> x.ask(wrong, 2), Check.UNKNOWN);
+        }
+        check.refused(x, "no fourth reader", () -> x.ask(3, 0), Check.UNKNOWN);
+        check.refused(x, "it is away", () -> x.ask(0, 2), Check.STATE);
+        check.due("undo finds the one act", x.undo(), 0);
+        Check.shelfIs(check, x, "40213");
+    }
+
+    private static void bringByLaws() {
+        String[] shelves = {"40132", "40213", "24013"};
+        int[] places = {4, 2, 0};
+        for (int law = 0; law < 3; law++) {
+            BesideBook x = Check.open("L" + law + "540213R20");
+            x.ask(0, 0);
+            check.due("law " + law, x.bring(2), places[law]);
+            Check.shelfIs(check, x, shelves[law]);
+            check.due("nobody has it", x.book(2, 1), Check.NONE);
+            check.due("nothing was asked for", x.book(2, 2), Check.NONE);
+            check.due("acts", x.count(4), 2);
+        }
+        BesideBook last = Check.open("L1540213R20");
+        last.ask(0, 3);
+        check.due("right of the last", last.bring(4), 4);
+        Check.shelfIs(check, last, "02134");
+        BesideBook changed = Check.open("L1540213R20");
+        changed.ask(0, 0);
+        changed.law(0);
+        check.due("by the law as it is then", changed.bring(2), 4);
+    }
+
+    private static void bringBesideWhatIsAway() {
+        BesideBook x = Check.open("L1540213R20R00");
+        check.due("2 for 0", x.ask(0, 0), 2);
+        check.due("0 for 4", x.ask(1, 4), 0);
+        check.due("0 is away: the end", x.bring(2), 3);
+        Check.shelfIs(check, x, "4132");
+        check.due("right of 4", x.bring(0), 1);
+        Check.shelfIs(check, x, "40132");
+    }
+
+    private static void alone() {
+        BesideBook x = Check.open("L1201R00");
+        check.due("1 for 0", x.ask(0, 0), 1);
+        check.due("alone: itself", x.ask(0, 0), 0);
+        check.due("itself was asked for", x.book(0, 2), 0);
+        check.due("nothing stands there", x.count(3), 0);
+        check.due("back on an empty shelf", x.bring(0), 0);
+        check.due("right of 0", x.bring(1), 1);
+        for (int law = 0; law < 3; law++) {
+            BesideBook empty = Check.open("L" + law + "201R00");
+            empty.ask(0, 0);
+            empty.ask(0, 0);
+            check.due("law " + law + " on an empty shelf", empty.bring(1), 0);
+            check.due("law " + law + ", itself asked for", empty.bring(0), law == 2 ? 0 : 1);
+        }
+    }
+
+    private static void bringRefused() {
+        BesideBook x = Check.open("L1540213R20");
+        x.ask(0, 0);
+        for (int wrong : new int[] {-1, 5, 8, Integer.MIN_VALUE, Integer.MAX_VALUE}) {
+            check.refused(x, "bring(" + wrong + ")", () -> x.bring(wrong), Check.UNKNOWN);
+        }
+        check.refused(x, "it stands there", () -> x.bring(0), Check.STATE);
+        check.due("2 comes back", x.bring(2), 2);
+        check.refused(x, "it stands there now", () -> x.bring(2), Check.STATE);
+    }
+
+    private static void undo() {
+        BesideBook x = Check.open("L2540213R20R00");
+        check.refused(x, "nothing to undo", () -> x.undo(), Check.STATE);
+        String first = Check.seen(x);
+        x.ask(0, 0);
+        String second = Check.seen(x);
+        x.ask(1, 3);
+        String third = Check.seen(x);
+        x.bring(2);
+        String fourth = Check.seen(x);
+        x.bring(4);
+        check.due("4 acts", x.count(4), 4);
+        check.due("bring 4 undone", x.undo(), 3);
+        check.holds("4 is away again", fourth.equals(Check.seen(x)));
+        check.due("who had it", x.book(4, 1), 1);
+        check.due("what was asked for", x.book(4, 2), 3);
+        check.due("bring 2 undone", x.undo(), 2);
+        check.holds("2 is away again", third.equals(Check.seen(x)));
+        check.due("ask 3 undone", x.undo(), 1);
+        check.holds("4 stands in front again", second.equals(Check.seen(x)));
+        check.due("ask 0 undone", x.undo(), 0);
+        check.holds("as at first", first.equals(Check.seen(x)));
+        check.refused(x, "no more", () -> x.undo(), Check.STATE);
+    }
+
+    private static void undoForgetsTheFirst() {
+        BesideBook x = Check.open("L0540213R20");
+        String[] shelves = new String[20];
+        for (int act = 0; act < 20; act++) {
+            shelves[act] = Check.shelf(x);
+            if (act % 2 == 0) {
+                x.ask(0, 4);
+            } else {
+                x.bring(away(x));
+            }
+            check.due("acts", x.count(4), Math.min(act + 1, 16));
+        }
+        for (int left = 15; left >= 0; left--) {
+            check.due("undo", x.undo(), left);
+            Check.shelfIs(check, x, shelves[4 + left]);
+        }
+        check.refused(x, "the first four are forgotten", () -> x.undo(), Check.STATE);
+    }
+
+    private static int away(BesideBook x) {
+        for (int book = 0; book < x.count(1); book++) {
+            if (x.book(book, 0) == Check.NONE) {
+                return book;
+            }
+        }
+        return Check.NONE;
+    }
+
+    private static void undoKeepsTheLaw() {
+        BesideBook x = Check.open("L0540213R20");
+        x.ask(0, 0);
+        x.law(2);
+        x.bring(2);
+        x.undo();
+        check.due("the law is no act", x.count(6), 2);
+        Check.shelfIs(check, x, "4013");
+        x.undo();
+        Check.shelfIs(check, x, "40213");
+    }
+
+    private static void judged(BesideBook x, int n, int row, int want) {
+        String before = Check.seen(x);
+        check.due("judge(" + n + ", " + row + ")", x.judge(n, row), want);
+        check.holds("judge changes nothing", before.equals(Check.seen(x)));
+    }
+
+    private static void judge() {
+        BesideBook x = Check.open("L0540213R20");
+        judged(x, 1, 40, Check.NONE);
+        judged(x, 1, 42, 0);
+        judged(x, 1, 2, Check.NONE);
+        judged(x, 1, 34, Check.NONE);
+        judged(x, 1, 95, 0);
+        judged(x, 1, 99, 0);
+        judged(x, 1, 0, 0);
+        judged(x, 2, 4042, Check.NONE);
+        judged(x, 2, 4041, 1);
+        judged(x, 2, 4142, 0);
+        judged(x, 2, 240, Check.NONE);
+        judged(x, 2, 241, 1);
+        judged(x, 2, 2, 0);
+        judged(x, 3, 404241, Check.NONE);
+        judged(x, 3, 999999, 0);
+        judged(x, 4, 40424143, Check.NONE);
+        judged(x, 4, 40424140, 3);
+        judged(x, 4, 40424043, 2);
+        judged(x, 4, 99999999, 0);
+        x.law(1);
+        judged(x, 2, 4042, 1);
+        judged(x, 2, 4040, Check.NONE);
+        judged(x, 3, 343440, Check.NONE);
+        judged(x, 3, 343442, 2);
+        judged(x, 3, 343434, Check.NONE);
+        x.law(2);
+        judged(x, 3, 404232, Check.NONE);
+        judged(x, 3, 404234, 2);
+        x.ask(0, 4);
+        judged(x, 1, 2, 0);
+        judged(x, 1, 42, Check.NONE);
+        BesideBook empty = Check.open("L0201R00");
+        empty.ask(0, 0);
+        judged(empty, 4, 0, Check.NONE);
+        empty.ask(0, 0);
+        judged(empty, 4, 0, 0);
+    }
+
+    private static void judgeRefused() {
+        BesideBook x = Check.open("L0540213");
+        for (int n : new int[] {0, 5, -1, Integer.MIN_VALUE, Integer.MAX_VALUE}) {
+            check.refused(x, "judge(" + n + ", 40)", () -> x.judge(n, 40), Check.OUTSIDE);
+        }
+        int[] over = {100, 10000, 1000000, 100000000};
+        for (int n = 1; n <= 4; n++) {
+            int trips = n;
+            for (int row : new int[] {-1, over[n - 1], Integer.MAX_VALUE, Integer.MIN_VALUE}) {
+                check.refused(x, "judge(" + n + ", " + row + ")", () -> x.judge(trips, row), Check.OUTSIDE);
+            }
+            check.due("the most figures", x.judge(n, over[n - 1] - 1), 0);
+        }
+    }
+}

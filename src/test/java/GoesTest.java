@@ -1,0 +1,238 @@
+/** Promises 14 to 20: meant, goes, goesAt, around, never, order, orderAt. */
+public final class GoesTest {
+    private static final Check check = new Check("GoesTest");
+
+    public static void main(String[] args) {
+        meant();
+        goes();
+        goesByOtherLaws();
+        goesRefused();
+        goesWhereSomeAreAway();
+        around();
+        aroundRefused();
+        never();
+        neverRefused();
+        order();
+        orderOfLikes();
+        orderWhereSomeAreAway();
+        nothingChanges();
+        check.end();
+    }
+
+    private static void meant() {
+        BesideBook x = Check.open("L0540213R00");
+        int[] due = {4, 2, 0, 1, 3};
+        for (int book = 0; book < 5; book++) {
+            check.due("meant(" + book + ")", x.meant(book), due[book]);
+            check.due("it gives it", x.ask(0, x.meant(book)), book);
+            int gone = book;
+            check.refused(x, "it is away then", () -> x.meant(gone), Check.STATE);
+            x.undo();
+        }
+        x.ask(0, 4);
+        check.refused(x, "away", () -> x.meant(0), Check.STATE);
+        check.due("2 stands right of 4 now", x.meant(2), 4);
+        for (int wrong : new int[] {-1, 5, 8, Integer.MIN_VALUE, Integer.MAX_VALUE}) {
+            check.refused(x, "meant(" + wrong + ")", () -> x.meant(wrong), Check.UNKNOWN);
+        }
+        BesideBook alone = Check.open("L0201R00");
+        alone.ask(0, 0);
+        check.due("alone: itself", alone.meant(0), 0);
+        check.due("away", alone.meant(1), Check.STATE);
+    }
+
+    private static void way(BesideBook x, int book, int barred, int... asked) {
+        String call = "goes(" + book + ", " + barred + ")";
+        check.due(call, x.goes(book, barred), asked.length == 0 ? Check.NONE : asked.length);
+        for (int i = 0; i < asked.length; i++) {
+            check.due(call + " at " + i, x.goesAt(book, barred, i), asked[i]);
+        }
+        for (int i : new int[] {-1, asked.length, asked.length + 1, 1000, Integer.MIN_VALUE, Integer.MAX_VALUE}) {
+            check.due(call + " at " + i, x.goesAt(book, barred, i), Check.NONE);
+        }
+    }
+
+    private static void goes() {
+        BesideBook x = Check.open("L0540213");
+        way(x, 0, 0, 4);
+        way(x, 4, 0, 3);
+        way(x, 0, 16, 3, 0, 2);
+        way(x, 0, 31);
+        way(x, 0, 30);
+        way(x, 0, 15, 4);
+        way(x, 3, 2, 2, 2);
+        way(x, 3, 22, 0, 0, 0);
+    }
+
+    private static void goesByOtherLaws() {
+        BesideBook x = Check.open("L1540213");
+        way(x, 0, 0, 4);
+        way(x, 0, 16);
+        x.law(2);
+        way(x, 0, 0, 4);
+        way(x, 0, 16, 0, 2, 2);
+    }
+
+    private static void goesRefused() {
+        BesideBook x = Check.open("L0540213R00");
+        x.ask(0, 4);
+        for (int wrong : new int[] {-1, 5, 8, Integer.MIN_VALUE, Integer.MAX_VALUE}) {
+            check.refused(x, "goes(" + wrong + ", 0)", () -> x.goes(wrong, 0), Check.UNKNOWN);
+            check.refused(x, "goesAt(" + wrong + ", 0, 0)", () -> x.goesAt(wrong, 0, 0), Check.UNKNOWN);
+            check.refused(x, "UNKNOWN comes ahead of OUTSIDE", () -> x.goes(wrong, -1), Check.UNKNOWN);
+        }
+        for (int barred : new int[] {-1, 32, 33, 256, Integer.MIN_VALUE, Integer.MAX_VALUE}) {
+            check.refused(x, "goes(1, " + barred + ")", () -> x.goes(1, barred), Check.OUTSIDE);
+            check.refused(x, "goesAt(1, " + barred + ", 0)", () -> x.goesAt(1, barred, 0), Check.OUTSIDE);
+            check.refused(x, "OUTSIDE comes ahead of STATE", () -> x.goes(0, barred), Check.OUTSIDE);
+        }
+        check.refused(x, "away", () -> x.goes(0, 0), Check.STATE);
+        check.refused(x, "away, whatever the place", () -> x.goesAt(0, 0, -1), Check.STATE);
+    }
+
+    private static void goesWhereSomeAreAway() {
+        BesideBook x = Check.open("L0876543210R00");
+        check.refused(x, "8 stand there", () -> x.goes(0, 0), Check.STATE);
+        x.ask(0, 7);
+        check.refused(x, "7 stand there", () -> x.goes(0, 0), Check.STATE);
+        check.refused(x, "7 stand there", () -> x.goesAt(0, 0, 0), Check.STATE);
+        x.ask(0, 7);
+        Check.shelfIs(check, x, "743210");
+        way(x, 0, 0, 1);
+        way(x, 0, 2, 2, 2);
+        way(x, 0, 255);
+        way(x, 0, 96, 1);
+        check.due("bits of all books may be barred", x.goes(0, 253), 1);
+        check.due("but no more", x.goes(0, 256), Check.OUTSIDE);
+        BesideBook alone = Check.open("L0201R00");
+        alone.ask(0, 0);
+        way(alone, 0, 0, 0);
+        way(alone, 0, 1);
+        way(alone, 0, 2, 0);
+    }
+
+    private static void around() {
+        int[][] due = {{3, 1, 2, Check.NONE, 4}, {1, 1, 1, Check.NONE, 1}, {Check.NONE, Check.NONE, Check.NONE, 1, Check.NONE}};
+        for (int law = 0; law < 3; law++) {
+            BesideBook x = Check.open("L" + law + "540213");
+            for (int book = 0; book < 5; book++) {
+                check.due("around(" + book + ") by law " + law, x.around(book), due[law][book]);
+            }
+        }
+        BesideBook eight = Check.open("L0876543210");
+        check.due("around(7)", eight.around(7), 7);
+        BesideBook alone = Check.open("L0201R00");
+        alone.ask(0, 0);
+        check.due("alone", alone.around(0), 1);
+    }
+
+    private static void aroundRefused() {
+        BesideBook x = Check.open("L0540213R00");
+        x.ask(0, 4);
+        check.refused(x, "away", () -> x.around(0), Check.STATE);
+        for (int wrong : new int[] {-1, 5, 8, Integer.MIN_VALUE, Integer.MAX_VALUE}) {
+            check.refused(x, "around(" + wrong + ")", () -> x.around(wrong), Check.UNKNOWN);
+        }
+        check.due("of those that stand there now", x.around(4), 3);
+    }
+
+    private static void never() {
+        BesideBook x = Check.open("L0540213R00");
+        check.due("4 gives all others", x.never(1, 4), 16);
+        check.due("3 gives 4 for ever", x.never(1, 3), 15);
+        check.due("2 gives 1 and 3", x.never(1, 2), 21);
+        check.due("4, then 3", x.never(2, 43), 0);
+        check.due("what does not stand there is left out", x.never(2, 94), 16);
+        check.due("nothing is asked for", x.never(4, 9999), 31);
+        check.due("a nought in front is told: 0, then 4", x.never(2, 4), 0);
+        x.law(1);
+        check.due("law 1: the same one for ever", x.never(1, 4), 30);
+        check.due("law 1: two of them", x.never(2, 40), 26);
+        x.law(2);
+        check.due("law 2: 0, 2, 1, 3, then 3 for ever", x.never(1, 4), 16);
+        x.law(0);
+        x.ask(0, 4);
+        check.due("what is away does not count", x.never(1, 4), 16);
+        check.due("what is away is left out", x.never(1, 0), 30);
+        BesideBook empty = Check.open("L0201R00");
+        empty.ask(0, 0);
+        check.due("alone, itself", empty.never(1, 0), 0);
+        check.due("alone, not asked for", empty.never(1, 1), 1);
+        empty.ask(0, 0);
+        check.due("nothing stands there", empty.never(4, 101), 0);
+    }
+
+    private static void neverRefused() {
+        BesideBook x = Check.open("L0540213");
+        for (int n : new int[] {0, 5, -1, Integer.MIN_VALUE, Integer.MAX_VALUE}) {
+            check.refused(x, "never(" + n + ", 0)", () -> x.never(n, 0), Check.OUTSIDE);
+        }
+        int[] over = {10, 100, 1000, 10000};
+        for (int n = 1; n <= 4; n++) {
+            int trips = n;
+            for (int row : new int[] {-1, over[n - 1], Integer.MAX_VALUE, Integer.MIN_VALUE}) {
+                check.refused(x, "never(" + n + ", " + row + ")", () -> x.never(trips, row), Check.OUTSIDE);
+            }
+            check.due("the most figures", x.never(n, over[n - 1] - 1), 31);
+        }
+    }
+
+    private static void ordered(BesideBook x, int worth, int... readers) {
+        check.due("order", x.order(), worth);
+        for (int i = 0; i < readers.length; i++) {
+            check.due("orderAt(" + i + ")", x.orderAt(i), readers[i]);
+        }
+        for (int i : new int[] {-1, readers.length, 4, 5, Integer.MIN_VALUE, Integer.MAX_VALUE}) {
+            check.due("orderAt(" + i + ")", x.orderAt(i), Check.NONE);
+        }
+    }
+
+    private static void order() {
+        ordered(new BesideBook(), 0);
+        ordered(Check.open("L040123R15R29"), 14, 1, 0);
+        ordered(Check.open("L040123R29R15"), 14, 0, 1);
+        ordered(Check.open("L03012R07"), 7, 0);
+        ordered(Check.open("L03012C021R07"), 0, 0);
+        ordered(Check.open("L03012C021R27"), 0, 0);
+        ordered(Check.open("L03012C201R07"), 7, 0);
+        // The one of less worth is given 2, and only then 1 stands beside 0.
+        ordered(Check.open("L040213C0123R18R12"), 8, 1, 0);
+        ordered(Check.open("L040213C0123R18R12R05"), 13, 1, 0, 2);
+        ordered(Check.open("L0201R09R09"), 9, 0, 1);
+    }
+
+    private static void orderOfLikes() {
+        ordered(Check.open("L040123R11R11R11R11"), 1, 0, 1, 2, 3);
+        ordered(Check.open("L040123R10R30R20R00"), 0, 0, 1, 2, 3);
+        ordered(Check.open("L0801234567R13R33R53R73"), 12, 0, 1, 2, 3);
+    }
+
+    private static void orderWhereSomeAreAway() {
+        BesideBook x = Check.open("L040123R15R29");
+        x.ask(0, 0);
+        Check.shelfIs(check, x, "023");
+        ordered(x, 0, 0, 1);
+        x.bring(1);
+        Check.shelfIs(check, x, "0231");
+        // Reader 1 asks for 1, the last, and is given 0; reader 0 asks for 0 and is given 2.
+        ordered(x, 0, 0, 1);
+        x.law(2);
+        ordered(x, 0, 0, 1);
+    }
+
+    private static void nothingChanges() {
+        BesideBook x = Check.open("L0540213C01234R20R35R19");
+        x.ask(0, 0);
+        x.seed(5);
+        String before = Check.seen(x);
+        x.meant(1);
+        x.goes(1, 1);
+        x.goesAt(1, 1, 0);
+        x.around(4);
+        x.never(4, 4013);
+        x.order();
+        x.orderAt(1);
+        check.holds("nothing is changed", before.equals(Check.seen(x)));
+        check.due("the act can still be undone", x.undo(), 0);
+    }
+}
