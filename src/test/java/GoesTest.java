@@ -6,6 +6,7 @@ public final class GoesTest {
         meant();
         goes();
         goesByOtherLaws();
+        goesFar();
         goesRefused();
         goesWhereSomeAreAway();
         around();
@@ -71,6 +72,14 @@ public final class GoesTest {
         x.law(2);
         way(x, 0, 0, 4);
         way(x, 0, 16, 0, 2, 2);
+    }
+
+    /** The longest ways that there are for six books. */
+    private static void goesFar() {
+        BesideBook x = Check.open("L06012345");
+        way(x, 4, 15, 5, 4, 5, 4, 4, 5, 4, 4, 4, 5, 4, 4, 4, 4, 5);
+        x.law(2);
+        way(x, 1, 29, 1, 1, 1, 1, 5, 5, 5, 5, 5);
     }
 
     private static void goesRefused() {
@@ -154,6 +163,7 @@ public final class GoesTest {
         x.ask(0, 4);
         check.due("what is away does not count", x.never(1, 4), 16);
         check.due("what is away is left out", x.never(1, 0), 30);
+        check.due("5 is given in the 22nd round at first", Check.open("L0801234567").never(2, 57), 0);
         BesideBook empty = Check.open("L0201R00");
         empty.ask(0, 0);
         check.due("alone, itself", empty.never(1, 0), 0);
@@ -188,6 +198,9 @@ public final class GoesTest {
     }
 
     private static void order() {
+        BesideBook fresh = Check.open("L040123R15R29");
+        check.due("the order, its worth not asked for before", fresh.orderAt(0), 1);
+        check.due("the order, its worth not asked for before", fresh.orderAt(1), 0);
         ordered(new BesideBook(), 0);
         ordered(Check.open("L040123R15R29"), 14, 1, 0);
         ordered(Check.open("L040123R29R15"), 14, 0, 1);

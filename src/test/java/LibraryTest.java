@@ -231,13 +231,19 @@ public final class LibraryTest {
         check.due("given stays", x.count(5), 1);
         check.due("the seed stays", x.seed(0), 99);
 
-        BesideBook fewer = Check.open("L0876543210C76543210R70R61R52R43");
+        BesideBook fewer = Check.open("L0876543210C76543210R10R61R52R43");
+        check.due("reader 0 has nothing", fewer.count(7), 0);
         fewer.wipe();
         Check.write(fewer, "L0210");
         check.due("fewer", fewer.library(), 20);
         check.due("no readers any more", fewer.reader(0, 0), Check.UNKNOWN);
         check.due("no such book any more", fewer.book(2, 0), Check.UNKNOWN);
         check.due("catalogue anew", fewer.book(1, 3), 0);
+        fewer.wipe();
+        Check.write(fewer, "L0201R15");
+        check.due("one reader", fewer.library(), 21);
+        fewer.ask(0, 0);
+        check.due("it has its wish, the readers of old have nothing", fewer.count(7), 1);
     }
 
     private static void libraryRefused() {
@@ -297,6 +303,10 @@ public final class LibraryTest {
         check.due("wish", x.reader(1, 0), 0);
         check.due("worth", x.reader(1, 1), 9);
         check.due("has nothing", x.reader(0, 2), 0);
+        x.ask(1, 2);
+        check.due("has 0", x.reader(1, 2), 1);
+        check.due("its wish", x.reader(1, 3), 1);
+        x.undo();
         x.ask(0, 3);
         check.due("has 1", x.reader(0, 2), 2);
         check.due("not its wish", x.reader(0, 3), 0);

@@ -7,6 +7,7 @@ public final class RowsTest {
     public static void main(String[] args) {
         given();
         forget();
+        eachAloneTellsAsMuch();
         rowsOfThree();
         lawAsItIs();
         allRows();
@@ -45,6 +46,18 @@ public final class RowsTest {
         check.due("again", x.forget(), 0);
         check.due("given anew", x.given(1, 2), 1);
         check.due("three rows", x.rows(), 3);
+    }
+
+    private static void eachAloneTellsAsMuch() {
+        BesideBook x = Check.open("L03012");
+        check.due("stood, rows not asked for before", x.stood(1), 7);
+        x.given(0, 1);
+        x.given(0, 2);
+        check.due("stood, rows not asked for since", x.stood(1), 2);
+        x.given(0, 0);
+        check.due("next, rows not asked for since", x.next(), Check.NONE);
+        x.forget();
+        check.due("stood, all forgotten", x.stood(1), 7);
     }
 
     private static void rowsOfThree() {
