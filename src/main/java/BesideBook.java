@@ -148,10 +148,10 @@ public final class BesideBook {
             return UNKNOWN;
         }
         int place = desk.shelf.placeGivenFor(book);
-        if (place == NONE) {
+        int given = desk.shelf.takeAt(place);
+        if (given == NONE) {
             return STATE;
         }
-        int given = desk.shelf.takeAt(place);
         acts.add(given, place, NONE, NONE);
         desk.holder[given] = reader;
         desk.askedFor[given] = book;
@@ -479,7 +479,7 @@ public final class BesideBook {
         return trial.roundTrip(asked, law);
     }
 
-    /** Of numbers of which the second is 1 or more, so that the answer may divide. */
+    /** Of numbers that are 0 or more; 1 or more itself, so that it may divide. */
     private static long greatestShared(long one, long other) {
         long large = other;
         long small = one;
@@ -488,7 +488,7 @@ public final class BesideBook {
             large = small;
             small = rest;
         }
-        return large;
+        return large > 0 ? large : 1;
     }
 
     /** Books that stand one beside the other, from the left. */
@@ -555,6 +555,7 @@ public final class BesideBook {
             return place == NONE ? NONE : rightOf(place);
         }
 
+        /** What stood there; NONE, and nothing changes, if there is no such place. */
         int takeAt(int place) {
             if (place < 0 || place >= size) {
                 return NONE;

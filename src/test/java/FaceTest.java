@@ -93,6 +93,9 @@ public final class FaceTest {
             int modifiers = one.getModifiers();
             check.holds(one + " is static", Modifier.isStatic(modifiers));
             check.holds(one + " is not open", !Modifier.isPublic(modifiers) && !Modifier.isProtected(modifiers));
+            for (Method method : one.getDeclaredMethods()) {
+                check.holds(method + " has a name of its own", FACE.stream().noneMatch(head -> head.contains(" " + method.getName() + "(")));
+            }
             for (Field field : one.getDeclaredFields()) {
                 check.holds(field + " is no static state", !Modifier.isStatic(field.getModifiers()));
             }
