@@ -4,16 +4,13 @@ public final class ActsTest {
 
     public static void main(String[] args) {
         ask();
-        askRefused();
         bringByLaws();
         bringBesideWhatIsAway();
         alone();
-        bringRefused();
         undo();
         undoForgetsTheFirst();
         undoKeepsTheLaw();
         judge();
-        judgeRefused();
         check.end();
     }
 
@@ -30,20 +27,6 @@ public final class ActsTest {
         check.due("4 and 1", x.reader(1, 2), 18);
         check.due("acts", x.count(4), 3);
         check.due("stand there", x.count(3), 2);
-    }
-
-    private static void askRefused() {
-        BesideBook x = Check.open("L0540213C01234R20R35R19");
-        x.ask(0, 0);
-        for (int wrong : new int[] {-1, 5, 8, Integer.MIN_VALUE, Integer.MAX_VALUE}) {
-            check.refused(x, "ask(" + wrong + ", 0)", () -> x.ask(wrong, 0), Check.UNKNOWN);
-            check.refused(x, "ask(0, " + wrong + ")", () -> x.ask(0, wrong), Check.UNKNOWN);
-            check.refused(x, "UNKNOWN comes ahead of STATE", () -> x.ask(wrong, 2), Check.UNKNOWN);
-        }
-        check.refused(x, "no fourth reader", () -> x.ask(3, 0), Check.UNKNOWN);
-        check.refused(x, "it is away", () -> x.ask(0, 2), Check.STATE);
-        check.due("undo finds the one act", x.undo(), 0);
-        Check.shelfIs(check, x, "40213");
     }
 
     private static void bringByLaws() {
@@ -95,20 +78,9 @@ public final class ActsTest {
         }
     }
 
-    private static void bringRefused() {
-        BesideBook x = Check.open("L1540213R20");
-        x.ask(0, 0);
-        for (int wrong : new int[] {-1, 5, 8, Integer.MIN_VALUE, Integer.MAX_VALUE}) {
-            check.refused(x, "bring(" + wrong + ")", () -> x.bring(wrong), Check.UNKNOWN);
-        }
-        check.refused(x, "it stands there", () -> x.bring(0), Check.STATE);
-        check.due("2 comes back", x.bring(2), 2);
-        check.refused(x, "it stands there now", () -> x.bring(2), Check.STATE);
-    }
-
     private static void undo() {
         BesideBook x = Check.open("L2540213R20R00");
-        check.refused(x, "nothing to undo", () -> x.undo(), Check.STATE);
+        check.due("nothing to undo", x.undo(), Check.STATE);
         String first = Check.seen(x);
         x.ask(0, 0);
         String second = Check.seen(x);
@@ -128,7 +100,7 @@ public final class ActsTest {
         check.holds("4 stands in front again", second.equals(Check.seen(x)));
         check.due("ask 0 undone", x.undo(), 0);
         check.holds("as at first", first.equals(Check.seen(x)));
-        check.refused(x, "no more", () -> x.undo(), Check.STATE);
+        check.due("no more", x.undo(), Check.STATE);
     }
 
     /** Twenty acts, by turns one that asks and one that brings back, for other books and readers each time. */
@@ -136,7 +108,7 @@ public final class ActsTest {
         BesideBook x = Check.open("L1540213R20R00R30");
         String[] desks = new String[20];
         for (int act = 0; act < 20; act++) {
-            desks[act] = desk(x);
+            desks[act] = Twins.desk(x);
             if (act % 2 == 0) {
                 x.ask(act / 2 % 3, x.at(act * 3 % 5));
             } else {
@@ -146,17 +118,9 @@ public final class ActsTest {
         }
         for (int left = 15; left >= 0; left--) {
             check.due("undo", x.undo(), left);
-            check.holds("as it was ahead of act " + (4 + left), desk(x).equals(desks[4 + left]));
+            check.holds("as it was ahead of act " + (4 + left), Twins.desk(x).equals(desks[4 + left]));
         }
-        check.refused(x, "the first four are forgotten", () -> x.undo(), Check.STATE);
-    }
-
-    private static String desk(BesideBook x) {
-        StringBuilder told = new StringBuilder(Check.shelf(x));
-        for (int book = 0; book < x.count(1); book++) {
-            told.append(' ').append(x.book(book, 1)).append(' ').append(x.book(book, 2));
-        }
-        return told.toString();
+        check.due("the first four are forgotten", x.undo(), Check.STATE);
     }
 
     private static int away(BesideBook x) {
@@ -224,20 +188,5 @@ public final class ActsTest {
         judged(empty, 4, 0, Check.NONE);
         empty.ask(0, 0);
         judged(empty, 4, 0, 0);
-    }
-
-    private static void judgeRefused() {
-        BesideBook x = Check.open("L0540213");
-        for (int n : new int[] {0, 5, -1, Integer.MIN_VALUE, Integer.MAX_VALUE}) {
-            check.refused(x, "judge(" + n + ", 40)", () -> x.judge(n, 40), Check.OUTSIDE);
-        }
-        int[] over = {100, 10000, 1000000, 100000000};
-        for (int n = 1; n <= 4; n++) {
-            int trips = n;
-            for (int row : new int[] {-1, over[n - 1], Integer.MAX_VALUE, Integer.MIN_VALUE}) {
-                check.refused(x, "judge(" + n + ", " + row + ")", () -> x.judge(trips, row), Check.OUTSIDE);
-            }
-            check.due("the most figures", x.judge(n, over[n - 1] - 1), 0);
-        }
     }
 }

@@ -7,12 +7,10 @@ public final class ChanceTest {
         clerkByLaws();
         clerkOfWhatIsAway();
         clerkAlone();
-        clerkRefused();
         chancesMakeOne();
         seed();
         week();
         weekChangesOnlyTheSeed();
-        weekRefused();
         check.end();
     }
 
@@ -78,31 +76,6 @@ public final class ChanceTest {
         }
     }
 
-    private static void clerkRefusedBoth(BesideBook x, int asked, int given, int m, int tenths, int want) {
-        String call = "clerk(" + asked + ", " + given + ", " + m + ", " + tenths + ", ..)";
-        check.refused(x, call, () -> x.clerk(asked, given, m, tenths, true), want);
-        check.refused(x, call, () -> x.clerk(asked, given, m, tenths, false), want);
-    }
-
-    private static void clerkRefused() {
-        BesideBook x = Check.open("L03012R00");
-        x.ask(0, 0);
-        for (int wrong : new int[] {-1, 3, 8, Integer.MIN_VALUE, Integer.MAX_VALUE}) {
-            clerkRefusedBoth(x, wrong, 0, 1, 0, Check.UNKNOWN);
-            clerkRefusedBoth(x, 0, wrong, 1, 0, Check.UNKNOWN);
-            clerkRefusedBoth(x, 1, wrong, 0, 11, Check.UNKNOWN);
-        }
-        for (int wrong : new int[] {-1, 0, 7, Integer.MIN_VALUE, Integer.MAX_VALUE}) {
-            clerkRefusedBoth(x, 0, 2, wrong, 0, Check.OUTSIDE);
-            clerkRefusedBoth(x, 1, 2, wrong, 0, Check.OUTSIDE);
-        }
-        for (int wrong : new int[] {-1, 11, Integer.MIN_VALUE, Integer.MAX_VALUE}) {
-            clerkRefusedBoth(x, 0, 2, 1, wrong, Check.OUTSIDE);
-            clerkRefusedBoth(x, 1, 2, 1, wrong, Check.OUTSIDE);
-        }
-        clerkRefusedBoth(x, 1, 2, 1, 0, Check.STATE);
-    }
-
     private static void chancesMakeOne() {
         for (int law = 0; law < 3; law++) {
             BesideBook x = Check.open("L" + law + "6403152");
@@ -166,21 +139,5 @@ public final class ChanceTest {
         alone.ask(0, 0);
         check.due("alone, its wish each time", alone.week(0, 60), 60);
         check.due("alone, never its wish", alone.week(1, 60), 0);
-    }
-
-    private static void weekRefused() {
-        BesideBook x = Check.open("L0201R05");
-        x.seed(77);
-        for (int wrong : new int[] {-1, 1, 4, Integer.MIN_VALUE, Integer.MAX_VALUE}) {
-            check.refused(x, "week(" + wrong + ", 1)", () -> x.week(wrong, 1), Check.UNKNOWN);
-            check.refused(x, "UNKNOWN comes ahead of OUTSIDE", () -> x.week(wrong, 0), Check.UNKNOWN);
-        }
-        x.ask(0, 0);
-        x.ask(0, 0);
-        for (int wrong : new int[] {-1, 0, 61, Integer.MIN_VALUE, Integer.MAX_VALUE}) {
-            check.refused(x, "OUTSIDE comes ahead of STATE", () -> x.week(0, wrong), Check.OUTSIDE);
-        }
-        check.refused(x, "nothing stands there", () -> x.week(0, 1), Check.STATE);
-        check.due("the seed is as it was", x.seed(0), 77);
     }
 }

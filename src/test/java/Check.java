@@ -1,10 +1,11 @@
-import java.util.function.LongSupplier;
+import java.util.stream.IntStream;
 
 /** Counts the answers of one test, and prints those that are not as due. */
 final class Check {
     static final int UNKNOWN = -1, OUTSIDE = -2, STATE = -3, FULL = -4, NONE = -9;
 
     private final String name;
+    private String sentence = "";
     private int right;
     private int wrong;
 
@@ -12,30 +13,42 @@ final class Check {
         this.name = name;
     }
 
+    /** The test of one sentence of the document; one in which nothing is looked at does not pass. */
+    void sentence(String words, Runnable test) {
+        sentence = " [" + words + "]";
+        int before = right + wrong;
+        try {
+            test.run();
+            holds("something is looked at", right + wrong > before);
+        } catch (RuntimeException thrown) {
+            isWrong("threw " + thrown);
+        }
+        sentence = "";
+    }
+
     void due(String call, long got, long want) {
         if (got == want) {
             right++;
-            return;
+        } else {
+            isWrong(call + " answered " + got + ", due is " + want);
         }
-        wrong++;
-        System.out.println(name + ": " + call + " answered " + got + ", due is " + want);
+    }
+
+    void alike(String what, String got, String want) {
+        if (got.equals(want)) {
+            right++;
+        } else {
+            isWrong(what + ": it is " + got + ", due is " + want);
+        }
     }
 
     void holds(String what, boolean holds) {
         due(what, holds ? 1 : 0, 1);
     }
 
-    /** That a call is refused by a number and that nothing that can be read changes by it. */
-    void refused(BesideBook x, String call, LongSupplier answer, long want) {
-        String before = seen(x);
-        due(call, answer.getAsLong(), want);
-        String after = seen(x);
-        if (before.equals(after)) {
-            right++;
-        } else {
-            wrong++;
-            System.out.println(name + ": " + call + " is refused but changes " + before + " to " + after);
-        }
+    private void isWrong(String what) {
+        wrong++;
+        System.out.println(name + sentence + ": " + what);
     }
 
     void end() {
@@ -45,10 +58,31 @@ final class Check {
         }
     }
 
+    /** Numbers below the least and above the most: the next ones, far ones, and ones alike in their lowest bits. */
+    static int[] outside(int least, int most) {
+        return IntStream.of(least - 1, most + 1, NONE, least + 32, most + 32, least + 64, least + 256, most + 256,
+            Integer.MIN_VALUE, Integer.MIN_VALUE + least, Integer.MAX_VALUE).filter(i -> i < least || i > most).toArray();
+    }
+
     static void write(BesideBook x, String text) {
-        for (int i = 0; i < text.length(); i++) {
-            x.write(1, text.charAt(i));
+        for (int from = 0; from < text.length(); from += 8) {
+            int n = Math.min(8, text.length() - from);
+            x.write(n, bytes(text.substring(from, from + n)));
         }
+    }
+
+    /** Up to eight signs as the bytes of a number, the first one highest. */
+    static long bytes(String signs) {
+        long v = 0;
+        for (int i = 0; i < signs.length(); i++) {
+            v = v << 8 | signs.charAt(i);
+        }
+        return v;
+    }
+
+    static void told(BesideBook x, String text) {
+        x.wipe();
+        write(x, text);
     }
 
     static int fault(String text) {
@@ -70,33 +104,33 @@ final class Check {
     /** The shelf as figures from the left. */
     static String shelf(BesideBook x) {
         StringBuilder told = new StringBuilder();
-        for (int place = 0; x.at(place) != NONE; place++) {
-            told.append(x.at(place));
+        int book = x.at(0);
+        for (int place = 1; place < 10 && book != NONE; place++) {
+            told.append(book);
+            book = x.at(place);
         }
         return told.toString();
     }
 
     static void shelfIs(Check check, BesideBook x, String want) {
-        String got = shelf(x);
-        if (!got.equals(want)) {
-            System.out.println("the shelf is " + got);
-        }
-        check.holds("the shelf is " + want, got.equals(want));
+        check.alike("the shelf", shelf(x), want);
     }
 
     /** All that calls can tell without changing anything: of the seed, it is set and set back. */
     static String seen(BesideBook x) {
         StringBuilder told = new StringBuilder(shelf(x));
+        int[] counts = new int[8];
         for (int what = 0; what < 8; what++) {
-            told.append(' ').append(x.count(what));
+            counts[what] = x.count(what);
+            told.append(' ').append(counts[what]);
         }
-        for (int book = 0; book < x.count(1); book++) {
+        for (int book = 0; book < counts[1]; book++) {
             told.append(" b");
             for (int what = 1; what < 4; what++) {
                 told.append(' ').append(x.book(book, what));
             }
         }
-        for (int reader = 0; reader < x.count(2); reader++) {
+        for (int reader = 0; reader < counts[2]; reader++) {
             told.append(" r");
             for (int what = 0; what < 3; what++) {
                 told.append(' ').append(x.reader(reader, what));

