@@ -8,7 +8,6 @@ public final class ActsTest {
         bringBesideWhatIsAway();
         alone();
         undo();
-        undoForgetsTheFirst();
         undoKeepsTheLaw();
         judge();
         check.end();
@@ -101,35 +100,6 @@ public final class ActsTest {
         check.due("ask 0 undone", x.undo(), 0);
         check.holds("as at first", first.equals(Check.seen(x)));
         check.due("no more", x.undo(), Check.STATE);
-    }
-
-    /** Twenty acts, by turns one that asks and one that brings back, for other books and readers each time. */
-    private static void undoForgetsTheFirst() {
-        BesideBook x = Check.open("L1540213R20R00R30");
-        String[] desks = new String[20];
-        for (int act = 0; act < 20; act++) {
-            desks[act] = Twins.desk(x);
-            if (act % 2 == 0) {
-                x.ask(act / 2 % 3, x.at(act * 3 % 5));
-            } else {
-                x.bring(away(x));
-            }
-            check.due("acts", x.count(4), Math.min(act + 1, 16));
-        }
-        for (int left = 15; left >= 0; left--) {
-            check.due("undo", x.undo(), left);
-            check.holds("as it was ahead of act " + (4 + left), Twins.desk(x).equals(desks[4 + left]));
-        }
-        check.due("the first four are forgotten", x.undo(), Check.STATE);
-    }
-
-    private static int away(BesideBook x) {
-        for (int book = 0; book < x.count(1); book++) {
-            if (x.book(book, 0) == Check.NONE) {
-                return book;
-            }
-        }
-        return Check.NONE;
     }
 
     private static void undoKeepsTheLaw() {

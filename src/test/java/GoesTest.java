@@ -7,6 +7,7 @@ public final class GoesTest {
         goes();
         goesByOtherLaws();
         goesFar();
+        goesByAllThatMayBeBarred();
         goesWhereSomeAreAway();
         around();
         never();
@@ -74,6 +75,23 @@ public final class GoesTest {
         way(x, 4, 15, 5, 4, 5, 4, 4, 5, 4, 4, 4, 5, 4, 4, 4, 4, 5);
         x.law(2);
         way(x, 1, 29, 1, 1, 1, 1, 5, 5, 5, 5, 5);
+    }
+
+    private static void goesByAllThatMayBeBarred() {
+        for (int law = 0; law < 3; law++) {
+            String text = "L" + law + "6350241";
+            BesideBook x = Check.open(text);
+            Model model = new Model();
+            for (char sign : text.toCharArray()) {
+                model.write(1, sign);
+            }
+            model.library();
+            for (int barred = 0; barred < 64; barred++) {
+                for (int book = 0; book < 6; book++) {
+                    check.due(text + " goes(" + book + ", " + barred + ")", x.goes(book, barred), model.goes(book, barred));
+                }
+            }
+        }
     }
 
     private static void goesWhereSomeAreAway() {

@@ -346,6 +346,10 @@ public final class RowsEdgesTest {
         check.due("1, 2 and 3 are alike", x.next(), 1);
         x.given(1, 2);
         check.due("one ring is left: all are alike", x.next(), 0);
+        BesideBook one = Check.open("L03012");
+        one.given(0, 1);
+        one.given(0, 2);
+        check.due("one row is left: all are alike", one.next(), 0);
     }
 
     /** By LAW 0 1 goes to the end: so at first 0 might have three neighbours then, behind the second time only 1. */
