@@ -240,15 +240,17 @@ public final class ActsEdgesTest {
         check.sentence("12: the row is filled, undone and filled again", ActsEdgesTest::filledAgain);
         check.sentence("12: what is refused is no ACT", ActsEdgesTest::refusedIsNoAct);
         check.sentence("12: THE SHELF, who has what, which was asked for: nothing else", ActsEdgesTest::whatIsNotUndone);
+        check.sentence("10 to 12: what is done and undone changes nothing", ActsEdgesTest::doneAndUndone);
     }
 
     private static void undoAnAsk() {
         for (int book : new int[] {0, 2, 3}) {
-            BesideBook x = Twins.busy();
-            String before = Twins.spent(Twins.busy());
-            x.ask(0, book);
-            check.due("undo()", x.undo(), 4);
-            check.alike("behind ask(0, " + book + ") and undo", Twins.spent(x), before);
+            Twins.areBusy(check, () -> {
+                BesideBook x = Twins.busy();
+                x.ask(0, book);
+                check.due("undo() behind ask(0, " + book + ")", x.undo(), 4);
+                return x;
+            });
         }
         BesideBook alone = emptyShelf(0);
         alone.undo();
@@ -258,14 +260,16 @@ public final class ActsEdgesTest {
     }
 
     private static void undoABring() {
-        for (int law = 0; law < 3; law++) {
+        for (int law : new int[] {0, 1, 2}) {
             for (int book : new int[] {1, 4}) {
-                BesideBook x = Twins.busy();
-                x.law(law);
-                x.bring(book);
-                check.due("undo()", x.undo(), 4);
-                x.law(1);
-                check.alike("behind bring(" + book + ") by LAW " + law + " and undo", Twins.spent(x), Twins.spent(Twins.busy()));
+                Twins.areBusy(check, () -> {
+                    BesideBook x = Twins.busy();
+                    x.law(law);
+                    x.bring(book);
+                    check.due("undo() behind bring(" + book + ") by LAW " + law, x.undo(), 4);
+                    x.law(1);
+                    return x;
+                });
             }
         }
     }
@@ -396,6 +400,19 @@ public final class ActsEdgesTest {
         check.due("what was kept", x.again(0), 3);
     }
 
+    private static void doneAndUndone() {
+        Twins.areBusy(check, () -> {
+            BesideBook x = Twins.busy();
+            x.ask(2, 0);
+            x.bring(4);
+            x.ask(0, 4);
+            for (int left = 6; left >= 4; left--) {
+                check.due("undo()", x.undo(), left);
+            }
+            return x;
+        });
+    }
+
     private static void judge() {
         check.sentence("13: n ROUND TRIPS (1 to 4): OUTSIDE", ActsEdgesTest::judgeOutside);
         check.sentence("13: row (0 or more): OUTSIDE", ActsEdgesTest::judgeBelow0);
@@ -414,6 +431,10 @@ public final class ActsEdgesTest {
         for (int n : Check.outside(1, 4)) {
             twins.still("judge(" + n + ", 2)", x -> x.judge(n, 2), Check.OUTSIDE);
             twins.still("judge(" + n + ", 0)", x -> x.judge(n, 0), Check.OUTSIDE);
+        }
+        int[] rows = {2, 202, 20202, 2020202};
+        for (int n = 1; n <= 4; n++) {
+            check.due("judge(" + n + ", " + rows[n - 1] + ")", Twins.busy().judge(n, rows[n - 1]), Check.NONE);
         }
     }
 

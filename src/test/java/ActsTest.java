@@ -115,9 +115,7 @@ public final class ActsTest {
     }
 
     private static void judged(BesideBook x, int n, int row, int want) {
-        String before = Check.seen(x);
         check.due("judge(" + n + ", " + row + ")", x.judge(n, row), want);
-        check.holds("judge changes nothing", before.equals(Check.seen(x)));
     }
 
     private static void judge() {

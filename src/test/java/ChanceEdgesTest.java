@@ -253,7 +253,13 @@ public final class ChanceEdgesTest {
     }
 
     private static void onlyTheSeed() {
-        new Twins(check, Twins::busy).still("another one and back", x -> 100 * x.seed(5) + x.seed(77), 7705);
+        Twins.areBusy(check, () -> {
+            BesideBook x = Twins.busy();
+            check.due("seed(5)", x.seed(5), 77);
+            check.due("seed(6)", x.seed(6), 5);
+            check.due("seed(77)", x.seed(77), 6);
+            return x;
+        });
     }
 
     private static void week() {

@@ -30,6 +30,10 @@ public final class OrderEdgesTest {
             twins.still("never(" + n + ", 0)", x -> x.never(n, 0), Check.OUTSIDE);
             twins.still("never(" + n + ", 2)", x -> x.never(n, 2), Check.OUTSIDE);
         }
+        int[] rows = {3, 93, 993, 9993};
+        for (int n = 1; n <= 4; n++) {
+            check.due("never(" + n + ", " + rows[n - 1] + ")", Twins.busy().never(n, rows[n - 1]), 12);
+        }
     }
 
     private static void neverBelow0() {
@@ -145,7 +149,7 @@ public final class OrderEdgesTest {
         check.sentence("19: of the first: the last", OrderEdgesTest::ofTheFirst);
         check.sentence("19: if that stands there", OrderEdgesTest::ifThatStandsThere);
         check.sentence("19: no BOOK comes back", OrderEdgesTest::noneComesBack);
-        check.sentence("19: alone: itself", OrderEdgesTest::orderAlone);
+        check.sentence("19: alone: itself, which is not its wish", OrderEdgesTest::orderAlone);
         check.sentence("19: nothing stands there", OrderEdgesTest::orderOfAnEmptyShelf);
         check.sentence("19: WORTH of those that are GLAD", OrderEdgesTest::worthOfTheGlad);
         check.sentence("19: the order of all READERS by which it is most", OrderEdgesTest::most);

@@ -11,11 +11,13 @@ public final class RowsEdgesTest {
         check.end();
     }
 
+    /** Of the ring 0 2 4 1 3, so that by LAW 1 there are five rows that fit; no other sixth one would do. */
     private static BesideBook sixGiven() {
         BesideBook x = Twins.busy();
-        for (int i = 0; i < 4; i++) {
-            x.given(i, i + 1);
-        }
+        x.given(2, 4);
+        x.given(4, 1);
+        x.given(3, 0);
+        x.given(0, 2);
         return x;
     }
 
@@ -88,11 +90,12 @@ public final class RowsEdgesTest {
     private static void forget() {
         check.sentence("22: Nothing is GIVEN", RowsEdgesTest::nothingIsGiven);
         check.sentence("22: how many there were", RowsEdgesTest::howManyThereWere);
+        check.sentence("21, 22: nothing else changes", RowsEdgesTest::onlyWhatIsGiven);
     }
 
     private static void nothingIsGiven() {
         BesideBook x = sixGiven();
-        check.due("no row fits", x.rows(), 0);
+        check.due("five rows fit", x.rows(), 5);
         x.forget();
         check.due("GIVEN", x.count(5), 0);
         check.due("all rows fit", x.rows(), 120);
@@ -104,6 +107,17 @@ public final class RowsEdgesTest {
             return busy;
         });
         twins.still("forget() of nothing", BesideBook::forget, 0);
+    }
+
+    private static void onlyWhatIsGiven() {
+        Twins.areBusy(check, () -> {
+            BesideBook x = Twins.busy();
+            x.given(4, 0);
+            x.forget();
+            x.given(0, 2);
+            x.given(1, 3);
+            return x;
+        });
     }
 
     private static void howManyThereWere() {

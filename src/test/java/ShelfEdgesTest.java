@@ -1,5 +1,3 @@
-import java.util.function.ToLongFunction;
-
 /** Promises 6 to 9: a test for each sentence on what is read of the shelf, and on the law, that names an edge. */
 public final class ShelfEdgesTest {
     private static final Check check = new Check("ShelfEdgesTest");
@@ -24,6 +22,7 @@ public final class ShelfEdgesTest {
         check.sentence("8: OUTSIDE", ShelfEdgesTest::readerOutside);
         check.sentence("8: of several the first: UNKNOWN, OUTSIDE", ShelfEdgesTest::readerRefusedTwice);
         check.sentence("9: The LAW is another one: what it was", ShelfEdgesTest::whatTheLawWas);
+        check.sentence("9: nothing else changes", ShelfEdgesTest::lawChangesNothingElse);
         check.sentence("9: OUTSIDE", ShelfEdgesTest::lawOutside);
         check.sentence("6 to 8: what is only read changes nothing", ShelfEdgesTest::readingChangesNothing);
         check.end();
@@ -237,9 +236,19 @@ public final class ShelfEdgesTest {
             check.due("the LAW", x.count(6), law);
             was = law;
         }
+    }
+
+    private static void lawChangesNothingElse() {
         Twins twins = new Twins(check, Twins::busy);
-        twins.still("law(1), which it is: no ACT, nothing else changes", y -> y.law(1), 1);
-        twins.still("another one and back", y -> 10 * y.law(2) + y.law(1), 12);
+        twins.still("law(1), which it is", x -> x.law(1), 1);
+        twins.still("another one and back", x -> 10 * x.law(2) + x.law(1), 12);
+        Twins.areBusy(check, () -> {
+            BesideBook x = Twins.busy();
+            x.law(2);
+            x.law(0);
+            x.law(1);
+            return x;
+        });
     }
 
     private static void lawOutside() {
@@ -253,8 +262,11 @@ public final class ShelfEdgesTest {
         Twins twins = new Twins(check, Twins::busy);
         twins.still("at(2)", x -> x.at(2), 3);
         twins.still("at(3)", x -> x.at(3), Check.NONE);
-        ToLongFunction<BesideBook> whats = x -> 1000 * x.book(1, 1) + 100 * x.book(1, 2) + 10 * x.book(1, 3) + x.book(2, 0);
-        twins.still("book", whats, 3231);
-        twins.still("reader", x -> 1000 * x.reader(3, 0) + 100 * x.reader(3, 1) + 10 * x.reader(3, 2) + x.reader(3, 3), 420);
+        int[] book = {Check.NONE, 3, 2, 3};
+        int[] reader = {0, 4, 2, 0};
+        for (int what : new int[] {0, 1, 2, 3}) {
+            twins.still("book(1, " + what + ")", x -> x.book(1, what), book[what]);
+            twins.still("reader(3, " + what + ")", x -> x.reader(3, what), reader[what]);
+        }
     }
 }

@@ -79,11 +79,14 @@ public final class SlotsEdgesTest {
             return x;
         });
         twins.still("keep(1) again", x -> x.keep(1), 3);
-        BesideBook x = Twins.busy();
+        BesideBook x = Check.open("L040123R15R29");
+        x.ask(0, 0);
         x.keep(0);
-        check.due("ACTS", x.count(4), 4);
-        check.due("undo()", x.undo(), 3);
-        Check.shelfIs(check, x, "0213");
+        check.due("ACTS", x.count(4), 1);
+        x.keep(1);
+        check.due("undo()", x.undo(), 0);
+        Check.shelfIs(check, x, "0123");
+        Twins.areBusy(check, Twins::busy);
     }
 
     private static void again() {

@@ -34,9 +34,11 @@ public final class TextEdgesTest {
     }
 
     private static void atFirst() {
-        BesideBook told = Check.open("L0201");
-        told.wipe();
-        check.alike("a new object", Twins.spent(new BesideBook()), Twins.spent(told));
+        Twins.areAlike(check, BesideBook::new, () -> {
+            BesideBook told = Check.open("L0201");
+            told.wipe();
+            return told;
+        });
         BesideBook x = new BesideBook();
         Check.shelfIs(check, x, "01");
         check.due("LAW", x.count(6), 0);
@@ -191,6 +193,7 @@ public final class TextEdgesTest {
     private static void wipe() {
         check.sentence("3: THE TEXT is empty", TextEdgesTest::textIsEmpty);
         check.sentence("3: how long it was", TextEdgesTest::howLongItWas);
+        check.sentence("2, 3: nothing but THE TEXT changes", TextEdgesTest::onlyTheText);
     }
 
     private static void textIsEmpty() {
@@ -214,6 +217,16 @@ public final class TextEdgesTest {
         empty.still("wipe() of the empty TEXT", BesideBook::wipe, 0);
     }
 
+    private static void onlyTheText() {
+        Twins.areBusy(check, () -> {
+            BesideBook x = Twins.busy();
+            x.wipe();
+            x.write(1, 'L');
+            Check.write(x, "2310");
+            return x;
+        });
+    }
+
     private static void howLongItWas() {
         check.due("nothing yet", new BesideBook().wipe(), 0);
         for (int length = 1; length <= 40; length++) {
@@ -232,7 +245,7 @@ public final class TextEdgesTest {
         check.sentence("4: n (2 to 8)", TextEdgesTest::twoToEightBooks);
         check.sentence("4: n figures, BOOKS 0 to n - 1", TextEdgesTest::figuresOfBooks);
         check.sentence("4: THE SHELF: each once", () -> eachOnce(""));
-        check.sentence("4: then PARTS, none or more", () -> goesOnBy("L0201", "CR", false));
+        check.sentence("4: then PARTS, none or more", TextEdgesTest::noneOrMoreParts);
         check.sentence("4: THE CATALOGUE: n figures likewise", TextEdgesTest::figuresOfTheCatalogue);
         check.sentence("4: THE CATALOGUE: each once", () -> eachOnce("C"));
         check.sentence("4: THE CATALOGUE: once at most", TextEdgesTest::catalogueOnce);
@@ -281,6 +294,13 @@ public final class TextEdgesTest {
                 begun += left - 1;
             }
             check.due("fault of " + begun, Check.fault(begun), Check.NONE);
+        }
+    }
+
+    private static void noneOrMoreParts() {
+        goesOnBy("L0201", "CR", false);
+        for (String parts : new String[] {"", "C10", "R15", "R15C10", "C10R15", "R15R15C10R15", "R15R15R15R15C10"}) {
+            check.due("fault of L0201" + parts, Check.fault("L0201" + parts), Check.NONE);
         }
     }
 
@@ -501,6 +521,13 @@ public final class TextEdgesTest {
         for (int book = 0; book < 5; book++) {
             check.due("place of " + book + " in THE CATALOGUE that is told", x.book(book, 3), book);
         }
+        for (String text : new String[] {"L0540213", "L0524130", "L0530241"}) {
+            Check.told(x, text);
+            x.library();
+            for (int book = 0; book < 5; book++) {
+                check.due("place of " + book + " in " + text, x.book(book, 3), text.indexOf('0' + book, 3) - 3);
+            }
+        }
     }
 
     private static void numberedAsTold() {
@@ -514,7 +541,9 @@ public final class TextEdgesTest {
     }
 
     private static void nothingOfOld() {
-        BesideBook x = busyWith("L0210");
+        BesideBook x = busyWith("L0210R15");
+        check.due("library", x.library(), 21);
+        Check.told(x, "L0210");
         check.due("library", x.library(), 20);
         check.due("READERS", x.count(2), 0);
         check.due("READER 0", x.reader(0, 0), Check.UNKNOWN);
